@@ -503,7 +503,7 @@ public final class SlotFile {
         }
     }
 
-    /** A page; which of its fields say something depends on its kind, the others are 0 or NONE. */
+    /** A page; without cells, the fields for cells are 0; out of a chain, those for chains say nothing. */
     private static final class Page {
         private int kind = FREE;
         private int slots = 0;
@@ -605,14 +605,13 @@ public final class SlotFile {
 
         void becomeChain(int bytes) {
             kind = CHAIN;
+            chainNext = NONE;
             chainBytes = bytes;
         }
 
         void becomeFree() {
             kind = FREE;
             end = 0;
-            chainNext = NONE;
-            chainBytes = 0;
         }
 
         private int bytesAt(int slot) {

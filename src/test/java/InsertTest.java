@@ -86,6 +86,16 @@ final class InsertTest {
         checks.is("class of page 0", file.page(0, 5), 7);
         checks.is("class of page 1", file.page(1, 5), 4);
         checks.is("the lesser class, not the lesser page", file.insert(0, 0), 33);
+
+        SlotFile just = new SlotFile();
+        just.insert(100, 0);
+        just.insert(61, 0);
+        just.insert(100, 0);
+        just.insert(99, 0);
+        checks.is("class of page 0", just.page(0, 5), 2);
+        checks.is("class of page 1", just.page(1, 5), 1);
+        checks.is("31 bytes are just class 1", just.insert(26, 0), 34);
+        checks.is("32 bytes are class 2", just.insert(27, 0), 2);
     }
 
     private void leastNumberInClass() {

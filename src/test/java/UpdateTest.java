@@ -11,6 +11,9 @@ final class UpdateTest {
         test.awayAndHome();
         test.awayFurther();
         test.awayInPlace();
+        test.awayToALesserPage();
+        test.placesAway();
+        test.awayRefused();
         test.pagesToBeFreed();
         test.chains();
         test.longAway();
@@ -71,6 +74,11 @@ final class UpdateTest {
         file.update(1, 36, 6);
         page(file, 0, 2, 2, 102, 138, 0);
         checks.is("compacted by one byte", file.total(6), 1);
+
+        SlotFile just = withRoom29();
+        checks.is("as many bytes as are left", just.update(0, 28, 6), true);
+        page(just, 0, 3, 3, 5, 236, 0);
+        checks.is("not compacted", just.total(6), 0);
     }
 
     /** Page 0 with cells of 21, 101 and 70 bytes: room is 44. */
@@ -171,6 +179,65 @@ final class UpdateTest {
         where(file, 0, 2, 0);
     }
 
+    /** Page 0 with an empty slot 0, cells of 101 and 28 bytes and room 107; page 1 with 32, 33 and 34, room 13. */
+    private static SlotFile withLesserPage() {
+        SlotFile file = new SlotFile();
+        for (int i = 0; i < 4; i++) {
+            file.insert(100, i);
+        }
+        file.insert(27, 4);
+        file.insert(20, 5);
+        file.delete(0);
+        return file;
+    }
+
+    private void awayToALesserPage() {
+        checks.part("promise 3, away to a lesser page");
+        SlotFile file = withLesserPage();
+        page(file, 0, 3, 2, 107, 230, 0);
+        page(file, 1, 3, 3, 13, 223, 0);
+        checks.is("just fits with 4 for its home and 4 for a slot", file.update(34, 98, 6), true);
+        where(file, 34, 0, 0);
+        page(file, 0, 3, 3, 4, 232, 0);
+        page(file, 1, 3, 3, 29, 223, 1);
+        checks.is("compacted", file.total(6), 1);
+        checks.is("no record has the number of its cell", file.length(0), NONE);
+        file = withLesserPage();
+        checks.is("does not fit", file.update(34, 99, 6), true);
+        where(file, 34, 2, 0);
+    }
+
+    private void placesAway() {
+        checks.part("promise 3, places away");
+        SlotFile file = withFullPageAway();
+        file.insert(100, 7);
+        checks.is("into the next page", file.update(0, 60, 8), true);
+        where(file, 0, 2, 1);
+        checks.is("length", file.length(0), 60);
+        checks.is("byte", file.byteAt(0, 1), 15);
+        file = withFullPageAway();
+        file.insert(100, 7);
+        file.insert(72, 7);
+        checks.is("room of page 2", file.page(2, 3), 66);
+        checks.is("would fit only as a home's cell", file.update(0, 60, 8), true);
+        where(file, 0, 3, 0);
+    }
+
+    private void awayRefused() {
+        checks.part("promise 3, away and refused");
+        SlotFile file = withFullPageAway();
+        for (int i = 0; i < 18; i++) {
+            file.insert(1200, i);
+        }
+        file.insert(700, 0);
+        checks.is("free pages", file.total(1), 0);
+        String before = Fingerprint.ofAll(file);
+        checks.is("no place further away", file.update(0, 60, 6), false);
+        checks.is("no place away", file.update(34, 100, 6), false);
+        checks.same("nothing changed", Fingerprint.ofAll(file), before);
+        checks.is("as long as there is room", file.update(0, 44, 6), true);
+    }
+
     private void pagesToBeFreed() {
         checks.part("promise 3, pages that will be free");
         SlotFile file = withRoom29();
@@ -204,6 +271,18 @@ final class UpdateTest {
         checks.is("long", file.update(160, 101, 2), true);
         page(file, 5, 1, 1, 235, 19, 0);
         checks.is("chain", file.where(160, 3), 0);
+
+        SlotFile again = new SlotFile();
+        checks.is("two pages", again.insert(480, 0), 64);
+        checks.is("none", again.update(64, 0, 0), true);
+        checks.is("one of them again", again.update(64, 101, 0), true);
+        checks.is("page 0", again.page(0, 0), 2);
+        checks.is("behind page 0", again.page(0, 7), NONE);
+        checks.is("bytes of page 0", again.page(0, 8), 101);
+        checks.is("page 1", again.page(1, 0), 0);
+        checks.is("page 1 as one of another chain", again.insert(101, 0), 65);
+        checks.is("delete", again.delete(64), 101);
+        checks.is("page 1 stays", again.page(1, 0), 2);
     }
 
     private void longAway() {
@@ -283,6 +362,7 @@ final class UpdateTest {
         page(file, 0, 1, 1, 239, 207, 0);
         checks.is("length", file.delete(0), 0);
         checks.is("page 0 is free", file.page(0, 0), 0);
+        checks.is("it has no slots", file.slot(0, 0), NONE);
         checks.is("changes", file.total(5), 6);
         checks.is("the number again", file.insert(7, 0), 0);
         page(file, 0, 1, 1, 236, 8, 0);
