@@ -96,6 +96,15 @@ final class InsertTest {
         checks.is("class of page 1", just.page(1, 5), 1);
         checks.is("31 bytes are just class 1", just.insert(26, 0), 34);
         checks.is("32 bytes are class 2", just.insert(27, 0), 2);
+
+        SlotFile greatest = new SlotFile();
+        greatest.insert(100, 0);
+        greatest.insert(100, 0);
+        greatest.insert(50, 0);
+        greatest.update(32, 0, 0);
+        checks.is("room of page 0", greatest.page(0, 3), 38);
+        checks.is("class of page 1", greatest.page(1, 5), 7);
+        checks.is("the greatest class goes before the first page with room", greatest.insert(27, 0), 33);
     }
 
     private void leastNumberInClass() {
