@@ -120,7 +120,7 @@ public final class SlotFile {
             case 4:
                 return asked.kind == CELLS ? asked.end : NONE;
             case 5:
-                return asked.kind == CELLS ? asked.roomClass() : NONE;
+                return asked.kind == CELLS ? asked.room() / CLASS_BYTES : NONE;
             case 6:
                 return asked.kind == CELLS ? asked.stubs : NONE;
             case 7:
@@ -403,7 +403,7 @@ public final class SlotFile {
                 if (i == notThis || i == norThis || !pages[i].takesNewCells()) {
                     continue;
                 }
-                int roomClass = pages[i].roomClass();
+                int roomClass = pages[i].room() / CLASS_BYTES;
                 if (roomClass * CLASS_BYTES >= need && roomClass < bestClass) {
                     best = i;
                     bestClass = roomClass;
@@ -538,10 +538,6 @@ public final class SlotFile {
 
         int room() {
             return CELL_PAGE_BYTES - SLOT_BYTES * slots - used;
-        }
-
-        int roomClass() {
-            return room() / CLASS_BYTES;
         }
 
         boolean takesNewCells() {
