@@ -431,8 +431,7 @@ public final class SlotFile {
         }
 
         private boolean hasPagesForChain(int length) {
-            int pagesNeeded = chainPages(length);
-            return pagesNeeded == 0 || pagesNeeded <= pagesThatAre(FREE);
+            return chainPages(length) <= pagesThatAre(FREE);
         }
 
         /** Takes the pages of a long value, which must be there, and answers the first of them. */

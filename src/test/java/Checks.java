@@ -46,6 +46,13 @@ final class Checks {
         throwsJust(what, NoSuchElementException.class, call);
     }
 
+    /** Makes calls that are refused or throw, and looks whether all that the file tells is as it was. */
+    void unchanged(String what, Run run, Call calls) {
+        String before = run.picture();
+        calls.run();
+        same(what, run.picture(), before);
+    }
+
     boolean allAsDue() {
         return wrong == 0;
     }

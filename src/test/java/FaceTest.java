@@ -91,11 +91,24 @@ final class FaceTest {
             checks.is(inside.getName() + " is static", Modifier.isStatic(modifiers), true);
             checks.is(inside.getName() + " is not public", Modifier.isPublic(modifiers), false);
             checks.is(inside.getName() + " has few fields", inside.getDeclaredFields().length <= 20, true);
+            for (Method m : inside.getDeclaredMethods()) {
+                checks.is(m.getName() + " bears no public name", isOfTheFace(m.getName()), false);
+                checks.is(m.getName() + " takes at most seven", m.getParameterCount() <= 7, true);
+            }
             for (Field f : inside.getDeclaredFields()) {
                 int m = f.getModifiers();
                 checks.is(f + " is no static state", !Modifier.isStatic(m) || Modifier.isFinal(m), true);
             }
         }
+    }
+
+    private static boolean isOfTheFace(String name) {
+        for (String member : FACE) {
+            if (member.contains(" " + name + "(")) {
+                return true;
+            }
+        }
+        return false;
     }
 
     private void source() throws Exception {
