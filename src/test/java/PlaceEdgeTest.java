@@ -24,6 +24,7 @@ final class PlaceEdgeTest {
         test.staysOrGoesAway();
         test.comesHomeOrStaysAway();
         test.changedThereOrFurtherAway();
+        test.anyOtherPageCounts();
         test.furtherAwayRefused();
         test.neverMoreThanOneStub();
         test.deletingGivesAllBack();
@@ -401,6 +402,26 @@ final class PlaceEdgeTest {
         checks.is("to a page with a cell", second.update(0, 45, 2), true);
         checks.same("in its second slot", second.place(0), "2.1");
         checks.is("its length", second.length(0), 45);
+    }
+
+    private void anyOtherPageCounts() {
+        checks.part("'neither in its home's page nor in the one where it is': every other page may be the place");
+        Run away = withRoom(pairs(65).inserts(1, 33), 64, 62);
+        checks.is("away", away.update(2, 34, 0), true);
+        checks.same("from page 0 to page 64", away.place(2), "64.2");
+
+        Run further = withRoom(pairs(65).inserts(1, 33), 1, 62);
+        further.update(2, 34, 0);
+        checks.same("from page 0 to page 1", further.place(2), "1.2");
+        withRoom(further, 64, 93).update(2, 54, 0);
+        checks.same("from page 1 to page 64", further.place(2), "64.2");
+
+        Run lesser = pairs(65).inserts(2, 33);
+        lesser.delete(2);
+        withRoom(lesser, 0, 62).update(34, 34, 0);
+        checks.same("from page 1 to page 0", lesser.place(34), "0.2");
+        withRoom(lesser, 64, 93).update(34, 54, 0);
+        checks.same("from page 0 to page 64", lesser.place(34), "64.2");
     }
 
     private void furtherAwayRefused() {
