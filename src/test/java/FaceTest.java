@@ -114,7 +114,9 @@ final class FaceTest {
     private void source() throws Exception {
         checks.part("source");
         String text = Files.readString(Path.of("src/main/java/SlotFile.java"));
-        String code = text.replaceAll("(?s)/\\*.*?\\*/", "").replaceAll("//[^\n]*", "").replaceAll("\"[^\"\n]*\"", "\"\"");
+        String code = text.replaceAll("(?s)/\\*.*?\\*/", "")
+            .replaceAll("//[^\n]*", "")
+            .replaceAll("\"[^\"\n]*\"", "\"\"");
         for (String word : NOT_ALLOWED) {
             checks.is("'" + word + "' stands in the source", code.contains(word), false);
         }

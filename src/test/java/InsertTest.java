@@ -21,14 +21,15 @@ final class InsertTest {
 
     private void newObject() {
         checks.part("promise 1");
-        SlotFile file = new SlotFile();
         for (int page = 0; page < 96; page++) {
+            Run file = new Run();
             checks.is("kind of page " + page, file.page(page, 0), 0);
             for (int what = 1; what <= 8; what++) {
                 checks.is("page(" + page + ", " + what + ")", file.page(page, what), NONE);
             }
             checks.is("slot 0 of page " + page, file.slot(page, 0), NONE);
         }
+        Run file = new Run();
         for (int what = 0; what <= 7; what++) {
             checks.is("total(" + what + ")", file.total(what), what == 1 ? 96 : 0);
         }
@@ -40,7 +41,7 @@ final class InsertTest {
         int[] lengths = {0, 1, 3, 4, 5, 6, 50, 99, 100};
         int[] takes = {5, 5, 5, 5, 6, 7, 51, 100, 101};
         for (int i = 0; i < lengths.length; i++) {
-            SlotFile file = new SlotFile();
+            Run file = new Run();
             checks.is("record", file.insert(lengths[i], 0), 0);
             checks.is("kind", file.page(0, 0), 1);
             checks.is("room for length " + lengths[i], file.page(0, 3), 244 - takes[i]);
@@ -57,7 +58,7 @@ final class InsertTest {
         int[] lengths = {101, 239, 240, 241, 480, 481, 720, 721, 960, 961, 1199, 1200};
         int[] pages = {1, 1, 1, 2, 2, 3, 3, 4, 4, 5, 5, 5};
         for (int i = 0; i < lengths.length; i++) {
-            SlotFile file = new SlotFile();
+            Run file = new Run();
             int chain = pages[i];
             checks.is("record of length " + lengths[i], file.insert(lengths[i], 9), 32 * chain);
             checks.is("chain pages", file.where(32 * chain, 2), chain);
@@ -76,7 +77,7 @@ final class InsertTest {
 
     private void leastClass() {
         checks.part("promise 2, least class");
-        SlotFile file = new SlotFile();
+        Run file = new Run();
         checks.is("1", file.insert(0, 0), 0);
         checks.is("2", file.insert(100, 0), 1);
         checks.is("3", file.insert(100, 0), 2);
@@ -87,7 +88,7 @@ final class InsertTest {
         checks.is("class of page 1", file.page(1, 5), 4);
         checks.is("the lesser class, not the lesser page", file.insert(0, 0), 33);
 
-        SlotFile just = new SlotFile();
+        Run just = new Run();
         just.insert(100, 0);
         just.insert(61, 0);
         just.insert(100, 0);
@@ -97,7 +98,7 @@ final class InsertTest {
         checks.is("31 bytes are just class 1", just.insert(26, 0), 34);
         checks.is("32 bytes are class 2", just.insert(27, 0), 2);
 
-        SlotFile greatest = new SlotFile();
+        Run greatest = new Run();
         greatest.insert(100, 0);
         greatest.insert(100, 0);
         greatest.insert(50, 0);
@@ -109,7 +110,7 @@ final class InsertTest {
 
     private void leastNumberInClass() {
         checks.part("promise 2, least number");
-        SlotFile file = new SlotFile();
+        Run file = new Run();
         file.insert(0, 0);
         file.insert(100, 0);
         file.insert(100, 0);
@@ -123,7 +124,7 @@ final class InsertTest {
 
     private void firstPageWithRoom() {
         checks.part("promise 2, first page with room");
-        SlotFile file = new SlotFile();
+        Run file = new Run();
         file.insert(100, 0);
         file.insert(100, 0);
         checks.is("room of page 0", file.page(0, 3), 38);
@@ -137,20 +138,20 @@ final class InsertTest {
         checks.is("room of page 1", file.page(1, 3), 25);
         checks.is("31 bytes have no room but in a free page", file.insert(26, 0), 64);
 
-        SlotFile just = new SlotFile();
+        Run just = new Run();
         just.insert(100, 0);
         just.insert(100, 0);
         checks.is("38 bytes are just there", just.insert(33, 0), 2);
         checks.is("room is used up", just.page(0, 3), 0);
-        SlotFile short1 = new SlotFile();
+        Run short1 = new Run();
         short1.insert(100, 0);
         short1.insert(100, 0);
         checks.is("39 bytes are not there", short1.insert(34, 0), 32);
     }
 
     /** Page 0 with an empty slot 0, two cells of 101 and room for 34 bytes; its end is 207. */
-    private static SlotFile withEmptySlot() {
-        SlotFile file = new SlotFile();
+    private static Run withEmptySlot() {
+        Run file = new Run();
         file.insert(0, 0);
         file.insert(100, 0);
         file.insert(100, 0);
@@ -160,7 +161,7 @@ final class InsertTest {
 
     private void newSlotIsAlwaysTold() {
         checks.part("promise 2, 4 bytes for the slot");
-        SlotFile file = withEmptySlot();
+        Run file = withEmptySlot();
         checks.is("room", file.page(0, 3), 34);
         checks.is("slots", file.page(0, 1), 3);
         checks.is("31 bytes and 4 do not fit", file.insert(30, 0), 32);
@@ -171,7 +172,7 @@ final class InsertTest {
 
     private void endAndCompacting() {
         checks.part("promise 2, end");
-        SlotFile file = withEmptySlot();
+        Run file = withEmptySlot();
         file.insert(28, 0);
         checks.is("end without compacting", file.page(0, 4), 236);
         checks.is("compacted", file.total(6), 0);
@@ -181,7 +182,7 @@ final class InsertTest {
         checks.is("compacted", file.total(6), 1);
 
         // The end leaves 10 bytes: a cell of 7 fits there, but not with a slot of its own.
-        SlotFile slots = new SlotFile();
+        Run slots = new Run();
         slots.insert(100, 0);
         slots.insert(99, 0);
         slots.insert(24, 0);
@@ -193,8 +194,8 @@ final class InsertTest {
     }
 
     /** 18 records of 1200 bytes: cells in page 5, where room is 14, and the pages 91 .. 95 free. */
-    private static SlotFile nearlyFull() {
-        SlotFile file = new SlotFile();
+    private static Run nearlyFull() {
+        Run file = new Run();
         for (int i = 0; i < 18; i++) {
             file.insert(1200, i);
         }
@@ -203,27 +204,27 @@ final class InsertTest {
 
     private void refusals() {
         checks.part("promise 2, refused");
-        SlotFile file = nearlyFull();
+        Run file = nearlyFull();
         checks.is("free pages", file.total(1), 5);
         checks.is("room", file.page(5, 3), 14);
         checks.is("one more", file.insert(1200, 0), 160 + 18);
         checks.is("free pages", file.total(1), 0);
-        String before = Fingerprint.ofAll(file);
+        String before = file.picture();
         checks.is("no place", file.insert(0, 0), NONE);
         checks.is("no chain", file.insert(101, 0), NONE);
-        checks.same("nothing changed", Fingerprint.ofAll(file), before);
+        checks.same("nothing changed", file.picture(), before);
 
         file = nearlyFull();
         file.insert(0, 0);
-        before = Fingerprint.ofAll(file);
+        before = file.picture();
         checks.is("chain takes all that is free, no place", file.insert(1200, 0), NONE);
-        checks.same("nothing changed", Fingerprint.ofAll(file), before);
+        checks.same("nothing changed", file.picture(), before);
         checks.is("a chain of four leaves a place", file.insert(960, 0), 32 * 95);
     }
 
     private void chainBeforePlace() {
         checks.part("promise 2, chain before place");
-        SlotFile file = new SlotFile();
+        Run file = new Run();
         file.insert(100, 0);
         file.insert(100, 0);
         file.insert(33, 0);
@@ -240,16 +241,16 @@ final class InsertTest {
 
     private void wrongInputs() {
         checks.part("promise 2, wrong");
-        SlotFile file = new SlotFile();
+        Run file = new Run();
         file.insert(5, 5);
-        String before = Fingerprint.ofAll(file);
+        String before = file.picture();
         checks.illegal("length -1", () -> file.insert(-1, 0));
         checks.illegal("length 1201", () -> file.insert(1201, 0));
         checks.illegal("least length", () -> file.insert(Integer.MIN_VALUE, 0));
         checks.illegal("greatest length", () -> file.insert(Integer.MAX_VALUE, 0));
         checks.illegal("seed -1", () -> file.insert(0, -1));
         checks.illegal("seed 256", () -> file.insert(0, 256));
-        checks.same("nothing changed", Fingerprint.ofAll(file), before);
+        checks.same("nothing changed", file.picture(), before);
         checks.is("seed 255", file.insert(0, 255), 1);
     }
 }

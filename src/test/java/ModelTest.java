@@ -1,21 +1,28 @@
 import java.util.NoSuchElementException;
 import java.util.Random;
 
-/** Long runs of calls, made by fixed seeds, on a SlotFile and on the Model: all answers must be the same. */
+/**
+ * Long runs of calls, made by fixed seeds, on a SlotFile and on the Model: all answers must be the same. No object
+ * comes behind its 512th call: to compare all that is told, new objects with the same calls behind them are asked.
+ */
 final class ModelTest {
     /** A call on either of the two, with a boolean told as 1 or 0. */
     interface Call {
         long answer();
     }
 
+    private static final int RUNS = 400;
+    private static final int CALLS = 448;
     private static final long MISSING = Long.MIN_VALUE;
     private static final long ILLEGAL = Long.MIN_VALUE + 1;
 
     private final Checks checks = new Checks("ModelTest");
     private final int[] answersByKind = new int[8];
     private Random random;
-    private SlotFile file;
+    private Run file;
     private Model model;
+    private SlotFile asked;
+    private int asksLeft;
     private int longShare;
     private int shortMost;
     private int deleteShare;
@@ -25,7 +32,7 @@ final class ModelTest {
     }
 
     private void runAll() {
-        for (int run = 0; run < 400 && checks.allAsDue(); run++) {
+        for (int run = 0; run < RUNS && checks.allAsDue(); run++) {
             checks.part("run " + run);
             oneRun(run);
         }
@@ -38,20 +45,20 @@ final class ModelTest {
 
     private void oneRun(int seed) {
         random = new Random(seed);
-        file = new SlotFile();
+        file = new Run();
         model = new Model();
         longShare = new int[] {0, 5, 30, 70}[seed % 4];
         shortMost = new int[] {4, 20, 100, 100}[seed / 4 % 4];
         deleteShare = new int[] {2, 10, 25}[seed / 16 % 3];
-        // Comparing asks far more than 512 times in all, but changes nothing: only changes are kept count of.
-        for (int i = 0; i < 512 && checks.allAsDue(); i++) {
+        int between = seed * 37 % CALLS;
+        for (int i = 1; i <= CALLS && checks.allAsDue(); i++) {
             oneCall();
-            if (i % 8 == 7 || i >= 500) {
+            if (i == between || i == CALLS) {
                 compareAll();
             }
         }
-        answersByKind[2] += file.total(4);
-        answersByKind[3] += file.total(6);
+        answersByKind[2] += model.total(4);
+        answersByKind[3] += model.total(6);
     }
 
     private void oneCall() {
@@ -59,7 +66,7 @@ final class ModelTest {
         if (dice < 2) {
             same("sync()", () -> file.sync(), () -> model.sync());
         } else if (dice < 4) {
-            int k = random.nextInt(10) == 0 ? random.nextInt(600) - 50 : file.total(5) - random.nextInt(3);
+            int k = random.nextInt(10) == 0 ? random.nextInt(600) - 50 : model.total(5) - random.nextInt(3);
             same("crash(" + k + ")", () -> file.crash(k), () -> model.crash(k));
         } else if (dice < 8) {
             wildCall();
@@ -95,23 +102,26 @@ final class ModelTest {
         int a = wildNumber();
         int b = wildNumber();
         int c = wildNumber();
-        String arguments = "(" + a + ", " + b + ", " + c + ")";
-        same("insert" + arguments, () -> file.insert(a, b), () -> model.insert(a, b));
-        same("update" + arguments, () -> file.update(a, b, c) ? 1 : 0, () -> model.update(a, b, c) ? 1 : 0);
-        same("delete" + arguments, () -> file.delete(a), () -> model.delete(a));
-        same("length" + arguments, () -> file.length(a), () -> model.length(a));
-        same("byteAt" + arguments, () -> file.byteAt(a, b), () -> model.byteAt(a, b));
-        same("where" + arguments, () -> file.where(a, b), () -> model.where(a, b));
-        same("next" + arguments, () -> file.next(a), () -> model.next(a));
-        same("page" + arguments, () -> file.page(a, b), () -> model.page(a, b));
-        same("slot" + arguments, () -> file.slot(a, b), () -> model.slot(a, b));
-        same("total" + arguments, () -> file.total(a), () -> model.total(a));
+        String told = "(" + a + ", " + b + ", " + c + ")";
+        switch (random.nextInt(10)) {
+            case 0 -> same("insert" + told, () -> file.insert(a, b), () -> model.insert(a, b));
+            case 1 -> same("update" + told, () -> file.update(a, b, c) ? 1 : 0, () -> model.update(a, b, c) ? 1 : 0);
+            case 2 -> same("delete" + told, () -> file.delete(a), () -> model.delete(a));
+            case 3 -> same("length" + told, () -> file.length(a), () -> model.length(a));
+            case 4 -> same("byteAt" + told, () -> file.byteAt(a, b), () -> model.byteAt(a, b));
+            case 5 -> same("where" + told, () -> file.where(a, b), () -> model.where(a, b));
+            case 6 -> same("next" + told, () -> file.next(a), () -> model.next(a));
+            case 7 -> same("page" + told, () -> file.page(a, b), () -> model.page(a, b));
+            case 8 -> same("slot" + told, () -> file.slot(a, b), () -> model.slot(a, b));
+            default -> same("total" + told, () -> file.total(a), () -> model.total(a));
+        }
     }
 
     private void compareAll() {
+        asksLeft = 0;
         for (int what = 0; what <= 7; what++) {
-            int asked = what;
-            same("total(" + what + ")", () -> file.total(asked), () -> model.total(asked));
+            int nth = what;
+            same("total(" + what + ")", () -> again().total(nth), () -> model.total(nth));
         }
         for (int page = 0; page < 96; page++) {
             comparePage(page);
@@ -119,7 +129,7 @@ final class ModelTest {
         int record = SlotFile.NONE;
         for (int i = 0; i <= 3072; i++) {
             int from = record;
-            record = (int) same("next(" + from + ")", () -> file.next(from), () -> model.next(from));
+            record = (int) same("next(" + from + ")", () -> again().next(from), () -> model.next(from));
             if (record == SlotFile.NONE) {
                 break;
             }
@@ -129,26 +139,36 @@ final class ModelTest {
 
     private void comparePage(int page) {
         for (int what = 0; what <= 8; what++) {
-            int asked = what;
-            same("page(" + page + ", " + what + ")", () -> file.page(page, asked), () -> model.page(page, asked));
+            int nth = what;
+            same("page(" + page + ", " + what + ")", () -> again().page(page, nth), () -> model.page(page, nth));
         }
         for (int slot = 0; slot <= 32; slot++) {
-            int asked = slot;
-            same("slot(" + page + ", " + slot + ")", () -> file.slot(page, asked), () -> model.slot(page, asked));
+            int nth = slot;
+            same("slot(" + page + ", " + slot + ")", () -> again().slot(page, nth), () -> model.slot(page, nth));
         }
     }
 
     private void compareRecord(int record) {
-        int length = (int) same("length(" + record + ")", () -> file.length(record), () -> model.length(record));
+        int length = (int) same("length(" + record + ")", () -> again().length(record), () -> model.length(record));
         for (int what = 0; what <= 3; what++) {
-            int asked = what;
+            int nth = what;
             same("where(" + record + ", " + what + ")",
-                () -> file.where(record, asked), () -> model.where(record, asked));
+                () -> again().where(record, nth), () -> model.where(record, nth));
         }
         int[] places = {-1, 0, length / 2, length - 1, length};
         for (int i : places) {
-            same("byteAt(" + record + ", " + i + ")", () -> file.byteAt(record, i), () -> model.byteAt(record, i));
+            same("byteAt(" + record + ", " + i + ")", () -> again().byteAt(record, i), () -> model.byteAt(record, i));
         }
+    }
+
+    /** An object with all calls of the run behind it that may be asked once more. */
+    private SlotFile again() {
+        if (asksLeft == 0) {
+            asked = file.again();
+            asksLeft = file.callsLeft();
+        }
+        asksLeft--;
+        return asked;
     }
 
     private long same(String what, Call call, Call dueCall) {
@@ -178,8 +198,8 @@ final class ModelTest {
     /** Mostly a record that is there. */
     private int someRecord() {
         int from = random.nextInt(100) < 90 ? random.nextInt(32 * (2 + random.nextInt(95))) : random.nextInt(3072);
-        int record = file.next(from - 1);
-        return record == SlotFile.NONE ? file.next(SlotFile.NONE) : record;
+        int record = model.next(from - 1);
+        return record == SlotFile.NONE ? model.next(SlotFile.NONE) : record;
     }
 
     private int wildNumber() {

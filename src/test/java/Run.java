@@ -171,7 +171,8 @@ final class Run {
         return answers;
     }
 
-    private SlotFile again() {
+    /** A new object with the same calls behind it, of which as many are left. */
+    SlotFile again() {
         if (callsLeft() == 0) {
             throw new AssertionError("no call is left for a picture");
         }

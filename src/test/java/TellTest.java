@@ -21,8 +21,8 @@ final class TellTest {
      * Records 0 (100 bytes), 1 (away, 60 bytes), 2 (100 bytes) in page 0; 32 (80 bytes) in page 1 and in
      * its slot 1 the value of 1; 34 (700 bytes) in page 1 too with the chain 2, 3, 4.
      */
-    private static SlotFile example() {
-        SlotFile file = new SlotFile();
+    private static Run example() {
+        Run file = new Run();
         file.insert(100, 10);
         file.insert(0, 11);
         file.insert(100, 12);
@@ -34,7 +34,7 @@ final class TellTest {
 
     private void lengths() {
         checks.part("promise 5");
-        SlotFile file = example();
+        Run file = example();
         checks.is("of 0", file.length(0), 100);
         checks.is("of 1", file.length(1), 60);
         checks.is("of 32", file.length(32), 80);
@@ -50,13 +50,11 @@ final class TellTest {
 
     private void bytes() {
         checks.part("promise 6");
-        SlotFile file = new SlotFile();
+        everyByte(100, 255);
+        everyByte(1200, 200);
+        Run file = new Run();
         int shortOne = file.insert(100, 255);
         int longOne = file.insert(1200, 200);
-        for (int i = 0; i < 1200; i++) {
-            checks.is("byte " + i, file.byteAt(longOne, i), (200 + 7 * i + i / 16) % 256);
-            checks.is("byte " + i, file.byteAt(shortOne, i), i < 100 ? (255 + 7 * i + i / 16) % 256 : NONE);
-        }
         checks.is("byte 1 as a number", file.byteAt(shortOne, 1), 6);
         checks.is("byte 16 as a number", file.byteAt(shortOne, 16), 112);
         checks.is("the last byte as a number", file.byteAt(longOne, 1199), 219);
@@ -64,7 +62,7 @@ final class TellTest {
         for (int i : outside) {
             checks.is("byte " + i, file.byteAt(longOne, i), NONE);
         }
-        SlotFile other = example();
+        Run other = example();
         checks.is("a byte of one that is away", other.byteAt(1, 0), 14);
         checks.is("behind it", other.byteAt(1, 60), NONE);
         for (int record : NO_RECORDS) {
@@ -75,7 +73,19 @@ final class TellTest {
         checks.is("an empty value", other.byteAt(0, 0), NONE);
     }
 
-    private void where(SlotFile file, int record, int page, int slot, int pages, int first) {
+    /** All bytes of a value and one behind them, 400 of an object. */
+    private void everyByte(int length, int seed) {
+        for (int from = 0; from <= length; from += 400) {
+            Run file = new Run();
+            int record = file.insert(length, seed);
+            for (int i = from; i < from + 400 && i <= length; i++) {
+                int due = i < length ? (seed + 7 * i + i / 16) % 256 : NONE;
+                checks.is("byte " + i + " of " + length, file.byteAt(record, i), due);
+            }
+        }
+    }
+
+    private void where(Run file, int record, int page, int slot, int pages, int first) {
         checks.is("page of " + record, file.where(record, 0), page);
         checks.is("slot of " + record, file.where(record, 1), slot);
         checks.is("chain pages of " + record, file.where(record, 2), pages);
@@ -84,7 +94,7 @@ final class TellTest {
 
     private void places() {
         checks.part("promise 7");
-        SlotFile file = example();
+        Run file = example();
         where(file, 0, 0, 0, 0, NONE);
         where(file, 1, 1, 1, 0, NONE);
         where(file, 2, 0, 2, 0, NONE);
@@ -102,7 +112,7 @@ final class TellTest {
 
     private void nextRecords() {
         checks.part("promise 8");
-        SlotFile file = example();
+        Run file = example();
         int[] from = {Integer.MIN_VALUE, -2, -1, 0, 1, 2, 31, 32, 33, 34, 35, 3071, 3072, Integer.MAX_VALUE};
         int[] due = {0, 0, 0, 1, 2, 32, 32, 34, 34, NONE, NONE, NONE, NONE, NONE};
         for (int i = 0; i < from.length; i++) {
@@ -114,7 +124,7 @@ final class TellTest {
         checks.is("behind it", file.next(1), 32);
     }
 
-    private void page(SlotFile file, int page, int... due) {
+    private void page(Run file, int page, int... due) {
         for (int what = 0; what <= 8; what++) {
             checks.is("page(" + page + ", " + what + ")", file.page(page, what), due[what]);
         }
@@ -122,7 +132,7 @@ final class TellTest {
 
     private void pages() {
         checks.part("promise 9");
-        SlotFile file = example();
+        Run file = example();
         page(file, 0, 1, 3, 3, 29, 207, 0, 1, NONE, NONE);
         page(file, 1, 1, 3, 3, 81, 155, 2, 0, NONE, NONE);
         page(file, 2, 2, NONE, NONE, NONE, NONE, NONE, NONE, 3, 240);
@@ -145,7 +155,7 @@ final class TellTest {
 
     private void slots() {
         checks.part("promise 10");
-        SlotFile file = example();
+        Run file = example();
         file.delete(0);
         int[][] due = {{0, 2, 1, NONE}, {1, 3, 1, NONE}, {NONE, NONE, NONE, NONE}, {NONE, NONE, NONE, NONE}};
         for (int page = 0; page < 4; page++) {
@@ -167,7 +177,7 @@ final class TellTest {
 
     private void totals() {
         checks.part("promise 13");
-        SlotFile file = example();
+        Run file = example();
         int[] due = {5, 91, 2, 3, 1, 6, 0, 0};
         for (int what = 0; what <= 7; what++) {
             checks.is("total(" + what + ")", file.total(what), due[what]);

@@ -25,7 +25,7 @@ final class UpdateTest {
         test.checks.finish();
     }
 
-    private void page(SlotFile file, int page, int slots, int cells, int room, int end, int stubs) {
+    private void page(Run file, int page, int slots, int cells, int room, int end, int stubs) {
         checks.is("kind of page " + page, file.page(page, 0), 1);
         checks.is("slots of page " + page, file.page(page, 1), slots);
         checks.is("cells of page " + page, file.page(page, 2), cells);
@@ -35,14 +35,14 @@ final class UpdateTest {
         checks.is("stubs of page " + page, file.page(page, 6), stubs);
     }
 
-    private void where(SlotFile file, int record, int page, int slot) {
+    private void where(Run file, int record, int page, int slot) {
         checks.is("page of " + record, file.where(record, 0), page);
         checks.is("slot of " + record, file.where(record, 1), slot);
     }
 
     private void inPlace() {
         checks.part("promise 3, in place");
-        SlotFile file = new SlotFile();
+        Run file = new Run();
         file.insert(50, 1);
         file.insert(20, 2);
         page(file, 0, 2, 2, 168, 72, 0);
@@ -61,7 +61,7 @@ final class UpdateTest {
 
     private void toTheEnd() {
         checks.part("promise 3, to the end");
-        SlotFile file = new SlotFile();
+        Run file = new Run();
         file.insert(50, 1);
         file.insert(20, 2);
         file.update(0, 10, 3);
@@ -75,15 +75,15 @@ final class UpdateTest {
         page(file, 0, 2, 2, 102, 138, 0);
         checks.is("compacted by one byte", file.total(6), 1);
 
-        SlotFile just = withRoom29();
+        Run just = withRoom29();
         checks.is("as many bytes as are left", just.update(0, 28, 6), true);
         page(just, 0, 3, 3, 5, 236, 0);
         checks.is("not compacted", just.total(6), 0);
     }
 
     /** Page 0 with cells of 21, 101 and 70 bytes: room is 44. */
-    private static SlotFile withRoom44() {
-        SlotFile file = new SlotFile();
+    private static Run withRoom44() {
+        Run file = new Run();
         file.insert(20, 0);
         file.insert(100, 1);
         file.insert(69, 2);
@@ -92,7 +92,7 @@ final class UpdateTest {
 
     private void homeByTheLastByte() {
         checks.part("promise 3, the last byte");
-        SlotFile file = withRoom44();
+        Run file = withRoom44();
         page(file, 0, 3, 3, 44, 192, 0);
         checks.is("just fits", file.update(0, 64, 7), true);
         page(file, 0, 3, 3, 0, 236, 0);
@@ -108,8 +108,8 @@ final class UpdateTest {
     }
 
     /** Page 0 with cells of 5, 101 and 101 bytes: room is 29. */
-    private static SlotFile withRoom29() {
-        SlotFile file = new SlotFile();
+    private static Run withRoom29() {
+        Run file = new Run();
         file.insert(0, 0);
         file.insert(100, 1);
         file.insert(100, 2);
@@ -118,7 +118,7 @@ final class UpdateTest {
 
     private void awayAndHome() {
         checks.part("promise 3, away and home");
-        SlotFile file = withRoom29();
+        Run file = withRoom29();
         checks.is("away", file.update(0, 40, 9), true);
         where(file, 0, 1, 0);
         page(file, 0, 3, 3, 29, 207, 1);
@@ -138,8 +138,8 @@ final class UpdateTest {
     }
 
     /** Record 0 is away in page 1 with 45 bytes; page 1 has two more cells and room 4. */
-    private static SlotFile withFullPageAway() {
-        SlotFile file = withRoom29();
+    private static Run withFullPageAway() {
+        Run file = withRoom29();
         file.update(0, 40, 3);
         file.insert(100, 4);
         file.insert(85, 5);
@@ -148,7 +148,7 @@ final class UpdateTest {
 
     private void awayFurther() {
         checks.part("promise 3, away further");
-        SlotFile file = withFullPageAway();
+        Run file = withFullPageAway();
         page(file, 1, 3, 3, 4, 232, 0);
         checks.is("further", file.update(0, 60, 6), true);
         where(file, 0, 2, 0);
@@ -166,7 +166,7 @@ final class UpdateTest {
 
     private void awayInPlace() {
         checks.part("promise 3, away in place");
-        SlotFile file = withFullPageAway();
+        Run file = withFullPageAway();
         checks.is("by the last byte", file.update(0, 44, 6), true);
         where(file, 0, 1, 0);
         page(file, 1, 3, 3, 0, 236, 0);
@@ -180,8 +180,8 @@ final class UpdateTest {
     }
 
     /** Page 0 with an empty slot 0, cells of 101 and 28 bytes and room 107; page 1 with 32, 33 and 34, room 13. */
-    private static SlotFile withLesserPage() {
-        SlotFile file = new SlotFile();
+    private static Run withLesserPage() {
+        Run file = new Run();
         for (int i = 0; i < 4; i++) {
             file.insert(100, i);
         }
@@ -193,7 +193,7 @@ final class UpdateTest {
 
     private void awayToALesserPage() {
         checks.part("promise 3, away to a lesser page");
-        SlotFile file = withLesserPage();
+        Run file = withLesserPage();
         page(file, 0, 3, 2, 107, 230, 0);
         page(file, 1, 3, 3, 13, 223, 0);
         checks.is("just fits with 4 for its home and 4 for a slot", file.update(34, 98, 6), true);
@@ -209,7 +209,7 @@ final class UpdateTest {
 
     private void placesAway() {
         checks.part("promise 3, places away");
-        SlotFile file = withFullPageAway();
+        Run file = withFullPageAway();
         file.insert(100, 7);
         checks.is("into the next page", file.update(0, 60, 8), true);
         where(file, 0, 2, 1);
@@ -225,22 +225,22 @@ final class UpdateTest {
 
     private void awayRefused() {
         checks.part("promise 3, away and refused");
-        SlotFile file = withFullPageAway();
+        Run file = withFullPageAway();
         for (int i = 0; i < 18; i++) {
             file.insert(1200, i);
         }
         file.insert(700, 0);
         checks.is("free pages", file.total(1), 0);
-        String before = Fingerprint.ofAll(file);
+        String before = file.picture();
         checks.is("no place further away", file.update(0, 60, 6), false);
         checks.is("no place away", file.update(34, 100, 6), false);
-        checks.same("nothing changed", Fingerprint.ofAll(file), before);
+        checks.same("nothing changed", file.picture(), before);
         checks.is("as long as there is room", file.update(0, 44, 6), true);
     }
 
     private void pagesToBeFreed() {
         checks.part("promise 3, pages that will be free");
-        SlotFile file = withRoom29();
+        Run file = withRoom29();
         file.update(0, 40, 3);
         checks.is("home with a chain", file.update(0, 101, 4), true);
         where(file, 0, 0, 0);
@@ -255,7 +255,7 @@ final class UpdateTest {
 
     private void chains() {
         checks.part("promise 3, chains");
-        SlotFile file = new SlotFile();
+        Run file = new Run();
         file.insert(1200, 1);
         checks.is("the same once more", file.update(160, 1200, 1), true);
         checks.is("first of the chain", file.where(160, 3), 6);
@@ -272,7 +272,7 @@ final class UpdateTest {
         page(file, 5, 1, 1, 235, 19, 0);
         checks.is("chain", file.where(160, 3), 0);
 
-        SlotFile again = new SlotFile();
+        Run again = new Run();
         checks.is("two pages", again.insert(480, 0), 64);
         checks.is("none", again.update(64, 0, 0), true);
         checks.is("one of them again", again.update(64, 101, 0), true);
@@ -287,7 +287,7 @@ final class UpdateTest {
 
     private void longAway() {
         checks.part("promise 3, long and away");
-        SlotFile file = new SlotFile();
+        Run file = new Run();
         for (int i = 0; i < 27; i++) {
             file.insert(0, i);
         }
@@ -312,34 +312,34 @@ final class UpdateTest {
 
     private void refusals() {
         checks.part("promise 3, refused");
-        SlotFile file = new SlotFile();
+        Run file = new Run();
         for (int i = 0; i < 18; i++) {
             file.insert(1200, i);
         }
         file.insert(0, 1);
         file.insert(960, 0);
-        String before = Fingerprint.ofAll(file);
+        String before = file.picture();
         checks.is("free pages", file.total(1), 0);
         checks.is("no pages for the chain, if it needs no more than before", file.update(160, 1200, 1), false);
         checks.is("no place", file.update(178, 1200, 1), false);
         checks.is("no pages at home", file.update(178, 101, 1), false);
-        checks.same("nothing changed", Fingerprint.ofAll(file), before);
+        checks.same("nothing changed", file.picture(), before);
         checks.is("a place is there", file.update(178, 100, 1), true);
         where(file, 178, 95, 1);
         checks.is("a second one", file.update(160, 100, 1), true);
         where(file, 160, 95, 2);
         checks.is("its chain is free", file.total(1), 5);
         file.insert(960, 0);
-        before = Fingerprint.ofAll(file);
+        before = file.picture();
         checks.is("free pages", file.total(1), 1);
         checks.is("the chain leaves no place", file.update(178, 1200, 1), false);
-        checks.same("nothing changed", Fingerprint.ofAll(file), before);
+        checks.same("nothing changed", file.picture(), before);
     }
 
     private void wrongUpdates() {
         checks.part("promise 3, wrong");
-        SlotFile file = withFullPageAway();
-        String before = Fingerprint.ofAll(file);
+        Run file = withFullPageAway();
+        String before = file.picture();
         checks.illegal("length -1", () -> file.update(0, -1, 0));
         checks.illegal("length 1201", () -> file.update(0, 1201, 0));
         checks.illegal("seed -1", () -> file.update(0, 0, -1));
@@ -349,12 +349,12 @@ final class UpdateTest {
             checks.missing("update " + record, () -> file.update(record, 0, 0));
         }
         checks.missing("no record, the length is wrong too", () -> file.update(3, 1201, 0));
-        checks.same("nothing changed", Fingerprint.ofAll(file), before);
+        checks.same("nothing changed", file.picture(), before);
     }
 
     private void deleting() {
         checks.part("promise 4");
-        SlotFile file = withRoom29();
+        Run file = withRoom29();
         checks.is("length", file.delete(1), 100);
         page(file, 0, 3, 2, 130, 207, 0);
         checks.is("an empty slot", file.slot(0, 1), 0);
@@ -370,7 +370,7 @@ final class UpdateTest {
 
     private void deletingAway() {
         checks.part("promise 4, away");
-        SlotFile file = withFullPageAway();
+        Run file = withFullPageAway();
         checks.is("length", file.delete(0), 40);
         page(file, 0, 3, 2, 34, 207, 0);
         page(file, 1, 3, 2, 49, 232, 0);
@@ -385,13 +385,13 @@ final class UpdateTest {
 
     private void wrongDeletes() {
         checks.part("promise 4, wrong");
-        SlotFile file = withFullPageAway();
+        Run file = withFullPageAway();
         file.delete(1);
-        String before = Fingerprint.ofAll(file);
+        String before = file.picture();
         int[] none = {-1, 1, 3, 31, 32, 64, 3071, 3072, Integer.MIN_VALUE, Integer.MAX_VALUE};
         for (int record : none) {
             checks.missing("delete " + record, () -> file.delete(record));
         }
-        checks.same("nothing changed", Fingerprint.ofAll(file), before);
+        checks.same("nothing changed", file.picture(), before);
     }
 }
