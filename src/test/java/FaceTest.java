@@ -39,6 +39,7 @@ final class FaceTest {
     public static void main(String[] args) throws Exception {
         FaceTest test = new FaceTest();
         test.face();
+        test.outerClass();
         test.nestedClasses();
         test.source();
         test.checks.finish();
@@ -84,6 +85,23 @@ final class FaceTest {
         found.add(text.toString());
     }
 
+    private void outerClass() {
+        checks.part("the class itself");
+        checks.is("at most twelve classes", SlotFile.class.getDeclaredClasses().length < 12, true);
+        int fields = 0;
+        for (Field f : SlotFile.class.getDeclaredFields()) {
+            int modifiers = f.getModifiers();
+            fields += Modifier.isStatic(modifiers) ? 0 : 1;
+            checks.is(f + " is no static state", !Modifier.isStatic(modifiers) || Modifier.isFinal(modifiers), true);
+        }
+        checks.is("few fields", fields <= 20, true);
+        for (Method m : SlotFile.class.getDeclaredMethods()) {
+            boolean seen = Modifier.isPublic(m.getModifiers());
+            checks.is(m.getName() + " bears a public name", isOfTheFace(m.getName()), seen);
+            checks.is(m.getName() + " takes at most seven", m.getParameterCount() <= 7, true);
+        }
+    }
+
     private void nestedClasses() {
         checks.part("classes inside");
         for (Class<?> inside : SlotFile.class.getDeclaredClasses()) {
@@ -126,5 +144,24 @@ final class FaceTest {
             }
         }
         checks.is("only ASCII", text.chars().allMatch(c -> c < 128), true);
+        methodsAreShort(text.split("\n"));
+    }
+
+    /** A method begins with a line that ends in a brace behind its parameters, and ends with one as far to the left. */
+    private void methodsAreShort(String[] lines) {
+        int methods = 0;
+        for (int i = 0; i < lines.length; i++) {
+            if (!lines[i].matches("( {4}| {8})[A-Za-z].*\\).* \\{") || lines[i].matches(" *(if|for|while|switch) .*")) {
+                continue;
+            }
+            methods++;
+            String last = lines[i].replaceAll("\\S.*", "") + "}";
+            int end = i;
+            while (end < lines.length && !lines[end].equals(last)) {
+                end++;
+            }
+            checks.is("lines of '" + lines[i].trim() + "' are sixty at most", end - i < 60, true);
+        }
+        checks.is("methods were found", methods > 50, true);
     }
 }
